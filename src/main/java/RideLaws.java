@@ -1048,32 +1048,27 @@ public final class RideLaws {
             return true;
         }
 
+        /** An "and" is added as soon as its right side is; an "or" waits for the end of all "and"s there. */
         private boolean readCond(Reader reader, Plan plan, int depth) {
-            if (!readJoined(reader, plan, depth)) {
-                return false;
-            }
-            for (int i = 0; i < ONES_MOST && reader.isKeyword(KEY_OR); i++) {
-                reader.advance();
-                if (!readJoined(reader, plan, depth)) {
-                    return false;
-                }
-                add(KEY_OR, 0, 0);
-            }
-            return true;
-        }
-
-        private boolean readJoined(Reader reader, Plan plan, int depth) {
             if (!readOne(reader, plan, depth)) {
                 return false;
             }
-            for (int i = 0; i < ONES_MOST && reader.isKeyword(KEY_AND); i++) {
+            boolean waiting = false;
+            for (int i = 0; i < ONES_MOST && (reader.isKeyword(KEY_AND) || reader.isKeyword(KEY_OR)); i++) {
+                boolean and = reader.isKeyword(KEY_AND);
+                if (!and && waiting) {
+                    add(KEY_OR, 0, 0);
+                }
+                waiting = waiting || !and;
                 reader.advance();
                 if (!readOne(reader, plan, depth)) {
                     return false;
                 }
-                add(KEY_AND, 0, 0);
+                if (and) {
+                    add(KEY_AND, 0, 0);
+                }
             }
-            return true;
+            return !waiting || add(KEY_OR, 0, 0);
         }
 
         private boolean readOne(Reader reader, Plan plan, int depth) {

@@ -170,6 +170,8 @@ public final class BookTest {
         Check.due("fault()", 1, x.fault());
         Check.due("a name that goes beyond", -401, Check.book(x, "tick 1;" + " ".repeat(392) + "xyz;", 0));
         Check.due("fault()", 3, x.fault());
+        Check.due("a name at 400", -402, Check.book(x, "tick 1;" + " ".repeat(393) + "xyz;", 0));
+        Check.due("fault()", 1, x.fault());
         Check.due("whistle that goes beyond", -402, Check.book(x, "tick 1;" + " ".repeat(392) + "whistle;", 0));
         Check.due("fault()", 1, x.fault());
     }

@@ -164,6 +164,10 @@ public final class RideTest {
         Check.due("940 bytes", -901, Check.ride(x, "word a;" + " ".repeat(933)));
         Check.due("a fault ahead of 900", -900, Check.ride(x, "word a;" + " ".repeat(892) + "|;" + " ".repeat(9)));
         Check.due("a fault at 900", -901, Check.ride(x, "word a;" + " ".repeat(893) + "|;"));
+        Check.due("a name that was not told at 900", -901, Check.ride(x, "rider r" + " ".repeat(893) + "xyz;"));
+        Check.due("its fault()", 1, x.fault());
+        Check.due("a name that was not told at 899", -900, Check.ride(x, "rider r" + " ".repeat(892) + "xyz;"));
+        Check.due("its fault()", 3, x.fault());
         Check.due("a token that goes beyond, told twice", -900, Check.ride(x, "word abcd;" + " ".repeat(884) + "word abcd;"));
         Check.due("its fault()", 3, x.fault());
         Check.due("a token that goes beyond and is too long", -900, Check.ride(x, "word " + " ".repeat(894) + "abcdefgh;"));
@@ -195,6 +199,14 @@ public final class RideTest {
         Check.due("count(2) of no ride", 0, x.count(2));
         Check.due("the same ride again", 9, Check.ride(x, SOME + "says r v;says r w;"));
         Check.due("law(0, 4) of it", 0, x.law(0, 4));
+        x.odds(0, 3, 3);
+        Check.book(x, "tick 60;whistle;tick 9;r alights;", 0);
+        Check.due("the same ride behind a judged book", 9, Check.ride(x, SOME + "says r v;says r w;"));
+        Check.due("law(0, 4) of it", 0, x.law(0, 4));
+        Check.due("now(0) of it", 0, x.now(0));
+        Check.due("now(4) of it", 0, x.now(4));
+        Check.due("now(6) of it", 1, x.now(6));
+        Check.due("now(7) of it", 0, x.now(7));
         Check.due("law(0, 3) of it", 0, x.law(0, 3));
         Check.due("rider(0, 2) of it", 0, x.rider(0, 2));
         Check.due("seat(0, 1) of it", 0, x.seat(0, 1));

@@ -202,6 +202,8 @@ public final class SentenceTest {
         Check.due("a fault ahead", -200, Check.sentence(x, "up" + " ".repeat(197) + "mute"));
         Check.due("on a name beyond", -200, Check.sentence(x, "on" + " ".repeat(197) + "xyz"));
         Check.due("fault()", 3, x.fault());
+        Check.due("on a name at 200", -201, Check.sentence(x, "on" + " ".repeat(198) + "xyz"));
+        Check.due("fault()", 1, x.fault());
         Check.due("a good token beyond", -201, Check.sentence(x, "up and" + " ".repeat(193) + "mute"));
         Check.due("fault()", 1, x.fault());
     }
