@@ -61,7 +61,7 @@ public final class CouncilTest {
         duePower(x, 0, 0, 7, 32);
         duePower(x, 5, 0, 7, 32);
         x.learn(5, 0);
-        // m turns sets without a v or without a w: 4 with no v and no .. counted: 32 less 7 * 3.
+        // m, who knows both, turns all sets but those with a v and a w: 32 less 7 times 3.
         duePower(x, 5, 0, 11, 32);
     }
 
