@@ -102,14 +102,7 @@ public final class BookTest {
     }
 
     private static void faulty(String marked, int kind) {
-        RideLaws x = Check.riding(TEXT);
-        Check.book(x, "tick 7;", 0);
-        Check.due("book(1) of " + marked, -2 - marked.indexOf('|'), Check.book(x, marked.replace("|", ""), 1));
-        Check.due("fault() of " + marked, kind, x.fault());
-        Check.due("told(2) stays", 7, x.told(2));
-        Check.due("now(0) stays", 0, x.now(0));
-        Check.due("count(5)", 0, x.count(5));
-        Check.due("undo()", -1, x.undo());
+        Check.faultyBook(TEXT, marked, kind);
     }
 
     private static void faults() {

@@ -16,69 +16,54 @@ public final class SentenceTest {
         Check.close();
     }
 
-    /** A sentence that fits the riders told as bits. */
-    private static void fits(RideLaws x, String text, int bits) {
-        int ones = Check.sentence(x, text);
-        Check.due("fault() of " + text, 0, x.fault());
-        Check.due("sentence() of " + text + " is above 0", true, ones > 0);
-        int got = 0;
-        int many = x.said(-1);
-        for (int k = 0; k < many; k++) {
-            got |= 1 << x.said(k);
-        }
-        Check.due("riders of " + text, bits, got);
-        Check.due("said(-1) of " + text, Integer.bitCount(bits), many);
-        Check.due("said(" + many + ") of " + text, -1, x.said(many));
-    }
-
     private static void ones() {
         RideLaws x = Check.riding(TEXT);
-        fits(x, "up", 5);
-        fits(x, "mute", 6);
-        fits(x, "latest", 0);
-        fits(x, "on s", 1);
-        fits(x, "on t", 4);
-        fits(x, "knows v", 1);
-        fits(x, "knows w", 9);
-        fits(x, "said = 0", 15);
-        fits(x, "roll > 1", 1);
-        fits(x, "roll < 1", 6);
-        fits(x, "roll = 1", 8);
-        fits(x, "number < 2", 3);
-        fits(x, "number=2", 4);
-        fits(x, "number>2", 8);
-        fits(x, "number > 999", 0);
-        fits(x, "not number = 000", 14);
+        Check.fits(x, "up", 5);
+        Check.fits(x, "mute", 6);
+        Check.fits(x, "latest", 0);
+        Check.fits(x, "on s", 1);
+        Check.fits(x, "on t", 4);
+        Check.fits(x, "knows v", 1);
+        Check.fits(x, "knows w", 9);
+        Check.fits(x, "said = 0", 15);
+        Check.fits(x, "roll > 1", 1);
+        Check.fits(x, "roll < 1", 6);
+        Check.fits(x, "roll = 1", 8);
+        Check.fits(x, "number < 2", 3);
+        Check.fits(x, "number=2", 4);
+        Check.fits(x, "number>2", 8);
+        Check.fits(x, "number > 999", 0);
+        Check.fits(x, "not number = 000", 14);
         x.ticks(1);
-        fits(x, "latest", 1);
-        fits(x, "said = 1", 1);
-        fits(x, "said > 0", 1);
-        fits(x, "said < 1", 14);
+        Check.fits(x, "latest", 1);
+        Check.fits(x, "said = 1", 1);
+        Check.fits(x, "said > 0", 1);
+        Check.fits(x, "said < 1", 14);
         x.ticks(2);
-        fits(x, "said=2", 1);
+        Check.fits(x, "said=2", 1);
         x.alight(0);
-        fits(x, "latest and not up", 1);
+        Check.fits(x, "latest and not up", 1);
         x.whistle();
-        fits(x, "latest", 0);
-        fits(x, "said=2", 1);
+        Check.fits(x, "latest", 0);
+        Check.fits(x, "said=2", 1);
     }
 
     private static void joined() {
         RideLaws x = Check.riding(TEXT);
-        fits(x, "up and mute", 4);
-        fits(x, "up or mute", 7);
-        fits(x, "not up and mute", 2);
-        fits(x, "not (up and mute)", 11);
-        fits(x, "number=0 or number=1 and number=2", 1);
-        fits(x, "(number=0 or number=1) and number=2", 0);
-        fits(x, "number=1 and number=2 or number=0", 1);
-        fits(x, "number=1 and(number=2 or number=1)", 2);
-        fits(x, "not not up", 5);
-        fits(x, "not not not up", 10);
-        fits(x, "((up))or(mute and not(on t))", 7);
-        fits(x, "up and not mute or not up and mute or number=3 and roll=1", 11);
-        fits(x, "not up or not mute", 11);
-        fits(x, "\nup\n", 5);
+        Check.fits(x, "up and mute", 4);
+        Check.fits(x, "up or mute", 7);
+        Check.fits(x, "not up and mute", 2);
+        Check.fits(x, "not (up and mute)", 11);
+        Check.fits(x, "number=0 or number=1 and number=2", 1);
+        Check.fits(x, "(number=0 or number=1) and number=2", 0);
+        Check.fits(x, "number=1 and number=2 or number=0", 1);
+        Check.fits(x, "number=1 and(number=2 or number=1)", 2);
+        Check.fits(x, "not not up", 5);
+        Check.fits(x, "not not not up", 10);
+        Check.fits(x, "((up))or(mute and not(on t))", 7);
+        Check.fits(x, "up and not mute or not up and mute or number=3 and roll=1", 11);
+        Check.fits(x, "not up or not mute", 11);
+        Check.fits(x, "\nup\n", 5);
     }
 
     private static void counts() {
@@ -115,12 +100,7 @@ public final class SentenceTest {
     }
 
     private static void faulty(String marked, int kind) {
-        RideLaws x = Check.riding(TEXT);
-        Check.sentence(x, "number = 3");
-        Check.due("sentence() of " + marked, -1 - marked.indexOf('|'), Check.sentence(x, marked.replace("|", "")));
-        Check.due("fault() of " + marked, kind, x.fault());
-        Check.due("the sentence stays", 3, x.said(0));
-        Check.due("count(5)", 0, x.count(5));
+        Check.faultySentence(TEXT, marked, kind);
     }
 
     private static void faults() {
@@ -170,7 +150,7 @@ public final class SentenceTest {
     private static void manyOnes() {
         RideLaws x = Check.riding(TEXT);
         Check.due("20 ones", 20, Check.sentence(x, "up" + " or up".repeat(19)));
-        fits(x, "mute and number=1" + " or up and mute".repeat(9), 6);
+        Check.fits(x, "mute and number=1" + " or up and mute".repeat(9), 6);
         faulty("up" + " or up".repeat(19) + " or |up", 4);
         faulty("up" + " or up".repeat(19) + " or |not up", 4);
         faulty("up" + " or up".repeat(19) + " or |(up)", 4);
@@ -183,15 +163,15 @@ public final class SentenceTest {
 
     private static void within() {
         RideLaws x = Check.riding(TEXT);
-        fits(x, "not not not not not not not up", 10);
-        fits(x, "(((((((up)))))))", 5);
-        fits(x, "not(not(not(not up)))", 5);
+        Check.fits(x, "not not not not not not not up", 10);
+        Check.fits(x, "(((((((up)))))))", 5);
+        Check.fits(x, "not(not(not(not up)))", 5);
         faulty("not not not not not not not not |up", 4);
         faulty("((((((((|up))))))))", 4);
         faulty("(((((((up and mute or (|up))))))))", 4);
         faulty("not (not (not (not (|up))))", 4);
         faulty("not (not (not (not (|or))))", 1);
-        fits(x, "(((((((up)))))))and(((((((mute)))))))", 4);
+        Check.fits(x, "(((((((up)))))))and(((((((mute)))))))", 4);
     }
 
     private static void lengths() {
