@@ -24,7 +24,7 @@ public final class EdgeFaultsTest {
         return text + " ".repeat(bytes - text.length());
     }
 
-    @Says("the first along the text")
+    @Says("FAULTS, the first along the text")
     static void theFirst() {
         ride("ring a |1 1;ring a 4 1;", 2);
         ride("word a;word |a;ring b 1 1;", 3);

@@ -55,7 +55,7 @@ public final class EdgeRideTest {
         return text.append(many("rider %y;", 6)).append(many("says %y wa;", 4)).toString();
     }
 
-    @Says("'ring' NAME STEPS SPEED (2 to 30; 1 to 9 steps a TICK)")
+    @Says("LINE: 'ring' NAME STEPS SPEED (2 to 30; 1 to 9 steps a TICK)")
     static void ring() {
         RideLaws x = Check.riding("ring a 2 1;ring b 30 9;ring c 29 8;seat s a 1;seat t b 29;seat u c 0;");
         x.ticks(1);

@@ -117,7 +117,7 @@ public final class EdgeTickTest {
         Check.due("now(1)", 0, x.now(1));
     }
 
-    @Says("A TICK (0 to 999; 1000: all are over)")
+    @Says("A TICK (0 to 999; 1000: all are over) goes")
     static void ticksTill1000() {
         RideLaws x = Check.riding(TEXT);
         Check.due("now(0) at first", 0, x.now(0));
