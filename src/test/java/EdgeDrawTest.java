@@ -77,6 +77,23 @@ public final class EdgeDrawTest {
         }
     }
 
+    /** Of one alone there is a draw, too, whatever it is: 0. */
+    @Says("a draw of all RIDERS, of all")
+    static void oneOfEach() {
+        String one = "ring a 7 1;seat s a 1;word c;rider r;";
+        RideLaws x = Check.riding(one);
+        x.drawn(1, seed(0, 12, 0));
+        Check.due("rider(0, 0) of one rider and one seat", 0, x.rider(0, 0));
+        x = Check.riding(one);
+        x.drawn(1, seed(0, 12, 1));
+        Check.due("roll(0, 0) of one rider and one word", 0, x.roll(0, 0));
+        x = Check.riding(one);
+        x.drawn(2, seed(0, 12, 0, 1, 0, 1, 0, 12, 1));
+        Check.due("rider(0, 0), two draws of one", 0, x.rider(0, 0));
+        Check.due("roll(0, 0), the fourth draw is the next tick's", 0, x.roll(0, 0));
+        Check.due("rider(0, 1)", 1, x.rider(0, 1));
+    }
+
     /** Neither is drawn: the next draw is the next tick's. */
     @Says("(no RIDERS or no SEATS: neither)")
     static void noRidersOrNoSeats() {
@@ -88,6 +105,9 @@ public final class EdgeDrawTest {
         RideLaws y = Check.riding("ring a 7 1;seat s a 1;word c;");
         Check.due("drawn(60, 1) without riders", 60, y.drawn(60, 1));
         Check.due("now(6) without riders", 0, y.now(6));
+        y.drawn(1, seed(0, 12, 0));
+        Check.due("seat(0, 2) without riders", -1, y.seat(0, 2));
+        Check.due("now(6) without riders, a draw of 0", 0, y.now(6));
         Check.due("drawn(60, 1) of no ride", 60, new RideLaws().drawn(60, 1));
     }
 
@@ -126,6 +146,7 @@ public final class EdgeDrawTest {
         Check.due("rider(1, 0) without words", 2, x.rider(1, 0));
         RideLaws y = Check.riding("word c;word d;");
         Check.due("drawn(60, 9) without riders", 60, y.drawn(60, 9));
+        y.drawn(1, seed(0, 12, 1));
         Check.ride(y, "word c;rider r;");
         Check.due("rider(0, 1) of the next ride", 0, y.rider(0, 1));
     }

@@ -116,6 +116,34 @@ public final class EdgeFaultsTest {
         Check.due("now(0)", 0, x.now(0));
     }
 
+    /** A token that begins just there is not looked at, whatever is wrong with it. */
+    @Says("the most bytes told, if there are more")
+    static void tokensFromThereOn() {
+        RideLaws x = Check.riding(TEXT);
+        String[] rides = {"ring b|31 1;", "ring b 30|0;", "ring b 4 1;seat t b|4;", "word b;word|b;", "word b;rider r|b;",
+            "ring b 4 1;ring c 4 1;ring d 4 1;|ring e 4 1;"};
+        for (String marked : rides) {
+            Check.due("ride() of " + marked, -901, Check.ride(x, broken(marked, 900)));
+            Check.due("fault() of " + marked, 1, x.fault());
+        }
+        String[] books = {"tick|0;", "|x alights;", "q mounts|x;", "tick 1;".repeat(40) + "|whistle;"};
+        for (String marked : books) {
+            Check.due("book(0) of " + marked, -402, Check.book(x, broken(marked, 400), 0));
+            Check.due("fault() of " + marked, 1, x.fault());
+        }
+        String[] sentences = {"on|x", "knows|x", "up" + " or up".repeat(19) + " or|up", "((((((((|up"};
+        for (String marked : sentences) {
+            Check.due("sentence() of " + marked, -201, Check.sentence(x, broken(marked, 200)));
+            Check.due("fault() of " + marked, 1, x.fault());
+        }
+    }
+
+    /** The text with so many bytes ahead of what stands behind the mark |. */
+    private static String broken(String marked, int bytes) {
+        int mark = marked.indexOf('|');
+        return wide(marked.substring(0, mark), bytes) + marked.substring(mark + 1);
+    }
+
     @Says("TOKENS that begin ahead of it are read whole")
     static void readWhole() {
         RideLaws x = Check.riding(TEXT);
