@@ -70,6 +70,42 @@ public final class EdgeFaultsTest {
         sentence("number |number", 1);
     }
 
+    /** A number where a told word should be, a told word where a number or a sign should be, a sign where either should. */
+    @Says("or one that can't come (at it")
+    static void otherSortsOfTokens() {
+        for (int n = 0; n < 30; n++) {
+            ride("|" + n + " b;", 1);
+            ride("|" + n + " b 4 1;", 1);
+            book("|" + n + ";", 1);
+            book("|" + n + " 1;", 1);
+            book("r |" + n + ";", 1);
+            book("q |" + n + " st;", 1);
+            sentence("|" + n, 1);
+            sentence("up |" + n + " up", 1);
+            sentence("said |" + n + " 1", 1);
+        }
+        for (String key : Check.KEYS) {
+            ride("ring b |" + key + " 1;", 1);
+            ride("ring b 4 |" + key + ";", 1);
+            ride("ring b 4 1;seat t b |" + key + ";", 1);
+            ride("word b |" + key, 1);
+            book("tick |" + key + ";", 1);
+            book("whistle |" + key, 1);
+            sentence("number = |" + key, 1);
+            sentence("number |" + key + " 1", 1);
+        }
+        String[] signs = {";", "<", "=", ">", "(", ")"};
+        for (String sign : signs) {
+            ride("|" + sign + " b;", 1);
+            ride("word |" + sign + ";", 1);
+            ride("ring b |" + sign + " 1;", 1);
+            book("|" + sign, 1);
+            book("q |" + sign, 1);
+            book("tick |" + sign, 1);
+            sentence("number = |" + sign, 1);
+        }
+    }
+
     @Says("the end: how many bytes there are")
     static void theEnd() {
         ride("word|", 1);

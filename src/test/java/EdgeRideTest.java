@@ -1,7 +1,5 @@
 /** Terms: what a ride's text may tell, and how much of it. */
 public final class EdgeRideTest {
-    private static final String KEYS = "ring seat word rider says law clash mounts alights learns whistle tick or and not up mute latest"
-            + " on knows said roll number";
     private static final String[] LETTERS = {"a", "b", "c", "d", "e", "f", "g", "h", "i"};
 
     public static void main(String[] args) {
@@ -174,7 +172,7 @@ public final class EdgeRideTest {
     @Says("NAME: a WORD, none of those told here, in a BOOK or a SENTENCE")
     static void keysAreNoNames() {
         String all = "ring a 4 1;seat s a 0;word v;rider r;law l v v;";
-        for (String key : KEYS.split(" ")) {
+        for (String key : Check.KEYS) {
             Check.faultyRide("ring |" + key + " 4 1;", 1);
             Check.faultyRide("ring a 4 1;seat |" + key + " a 1;", 1);
             Check.faultyRide("word |" + key + ";", 1);
