@@ -3,7 +3,7 @@ import java.util.Random;
 
 /** All promises: runs of random calls, each answered alike by RideLaws and by Model. */
 public final class ModelTest {
-    private static final int RUNS = 400;
+    private static final int RUNS = 1000;
     private static final String[] NAMES = {"a", "b", "c", "d", "e", "f", "g", "h", "lion", "swanboa", "k", "l", "m", "n", "o", "p"};
     private static final String[] ODD = {"ring", "seat", "word", "rider", "says", "law", "clash", "mounts", "alights", "learns",
         "whistle", "tick", "or", "and", "not", "up", "mute", "latest", "on", "knows", "said", "roll", "number", ";", "<", "=", ">",
@@ -43,6 +43,9 @@ public final class ModelTest {
 
     private void play() {
         readRide(rideText());
+        if (any(6) == 0) {
+            waitLong();
+        }
         for (int i = 0; i < 120; i++) {
             int what = any(20);
             if (what == 0) {
@@ -53,6 +56,15 @@ public final class ModelTest {
                 ask();
             }
         }
+    }
+
+    /** Till near TICK 1000, at which what goes by and what would go on part. */
+    private void waitLong() {
+        for (int i = 0; i < 16; i++) {
+            due("ticks(60)", y.ticks(60), x.ticks(60));
+        }
+        int rest = 1 + any(40);
+        due("ticks(" + rest + ")", y.ticks(rest), x.ticks(rest));
     }
 
     // Texts
@@ -69,13 +81,18 @@ public final class ModelTest {
         return any(6) == 0 ? "\n " : " ";
     }
 
+    /** Now and then one more, so that there may be too many of a sort. */
+    private int more() {
+        return any(8) == 0 ? 1 : 0;
+    }
+
     private String rideText() {
         StringBuilder t = new StringBuilder();
-        int rings = 1 + any(3);
-        int seats = any(9);
-        int words = any(9);
-        int riders = any(7);
-        int laws = any(9);
+        int rings = 1 + any(3) + more();
+        int seats = any(9) + more();
+        int words = any(9) + more();
+        int riders = any(7) + more();
+        int laws = any(9) + more();
         int[] steps = new int[rings];
         for (int i = 0; i < rings; i++) {
             steps[i] = any(3) == 0 ? 2 + any(29) : 2 + any(6);
@@ -167,10 +184,24 @@ public final class ModelTest {
         }
     }
 
-    /** A byte or a token less or more, or very long. */
+    /** The text with one of its lines told somewhere else, or there as well. */
+    private String moved(String text) {
+        int from = text.lastIndexOf(';', any(text.length() + 1)) + 1;
+        int to = text.indexOf(';', from) + 1;
+        if (to == 0) {
+            return text;
+        }
+        String rest = any(2) == 0 ? text : text.substring(0, from) + text.substring(to);
+        int into = rest.lastIndexOf(';', any(rest.length() + 1)) + 1;
+        return rest.substring(0, into) + text.substring(from, to) + rest.substring(into);
+    }
+
+    /** A byte or a token less or more, a line moved, or very long. */
     private String spoiled(String text) {
         int place = any(text.length() + 1);
-        switch (any(6)) {
+        switch (any(7)) {
+            case 6:
+                return moved(text);
             case 0:
                 return text.substring(0, place);
             case 1:
