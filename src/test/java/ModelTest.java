@@ -46,6 +46,9 @@ public final class ModelTest {
         if (any(6) == 0) {
             waitLong();
         }
+        for (int l = 0; l < 8; l++) {
+            due("holds(" + l + ")", y.holds(l), x.holds(l));
+        }
         for (int i = 0; i < 120; i++) {
             int what = any(20);
             if (what == 0) {
@@ -88,14 +91,16 @@ public final class ModelTest {
 
     private String rideText() {
         StringBuilder t = new StringBuilder();
-        int rings = 1 + any(3) + more();
+        // Small rings, so that several riders speak in one tick.
+        boolean busy = any(3) == 0;
+        int rings = (busy ? 3 : 1 + any(3)) + more();
         int seats = any(9) + more();
         int words = any(9) + more();
         int riders = any(7) + more();
         int laws = any(9) + more();
         int[] steps = new int[rings];
         for (int i = 0; i < rings; i++) {
-            steps[i] = any(3) == 0 ? 2 + any(29) : 2 + any(6);
+            steps[i] = busy ? 2 + any(2) : any(3) == 0 ? 2 + any(29) : 2 + any(6);
             t.append("ring ").append(name("r", i)).append(' ').append(steps[i]).append(blank()).append(1 + any(9)).append(';');
         }
         for (int i = 0; i < seats; i++) {
@@ -112,11 +117,14 @@ public final class ModelTest {
         for (int i = 0; i < 14 && riders > 0 && words > 0; i++) {
             t.append("says ").append(name("p", any(riders))).append(' ').append(name("w", any(Math.min(words, 3)))).append(';');
         }
+        // Laws of words that are often said come to hold, and clash, within one tick.
+        int lawWords = any(3) == 0 ? words : Math.min(words, 3);
         for (int i = 0; i < laws && words > 0; i++) {
-            t.append("law ").append(name("l", i)).append(' ').append(name("w", any(words))).append(' ').append(name("w", any(words)))
-                    .append(';');
+            t.append("law ").append(name("l", i)).append(' ').append(name("w", any(lawWords))).append(' ')
+                    .append(name("w", any(lawWords))).append(';');
         }
-        for (int i = 0; i < any(8) && laws > 1; i++) {
+        int clashes = any(3) == 0 ? 0 : any(16);
+        for (int i = 0; i < clashes && laws > 1; i++) {
             t.append("clash ").append(name("l", any(laws))).append(' ').append(name("l", any(laws))).append(';');
         }
         return t.toString();
